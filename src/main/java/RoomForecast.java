@@ -9,7 +9,7 @@ public final class RoomForecast {
     private static final int MOST_FREED = 100000;
     private static final int MOST_CLEANINGS = 60;
     private static final int MOST_SAMPLES = 12;
-    private static final int MOST_PAIRS = 66;
+    private static final int MOST_PAIRS = MOST_SAMPLES * (MOST_SAMPLES - 1) / 2;
     private static final int FEWEST_FOR_SLOPE = 2;
     private static final int FEWEST_FOR_BOUNDS = 3;
     private static final int LAST_RULE_START = 3000;
@@ -138,7 +138,7 @@ public final class RoomForecast {
     }
 
     public int poolFull(int stores) throws IllegalArgumentException {
-        if (stores == 0 || stores >>> this.stores.size() != 0) {
+        if (stores == 0 || (stores >>> this.stores.size()) != 0) {
             throw new IllegalArgumentException("not a pool of stores");
         }
         if (!drawPool(stores)) {
@@ -187,7 +187,7 @@ public final class RoomForecast {
     }
 
     private static boolean isInPool(int pool, int store) {
-        return (pool >>> store & 1) == 1;
+        return ((pool >>> store) & 1) == 1;
     }
 
     /** Makes the stores of a pool ready for forecasts; tells whether all of them have slopes. */

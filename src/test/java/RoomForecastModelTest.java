@@ -342,7 +342,10 @@ public final class RoomForecastModelTest {
                 default: return "" + x.poolFull(a[0]);
             }
         } catch (RuntimeException thrown) {
-            return "throws." + thrown.getClass().getSimpleName();
+            // What the machine or the library throws is never due: it is told with its thrower.
+            String thrower = thrown.getStackTrace()[0].getClassName();
+            return "throws." + thrown.getClass().getSimpleName()
+                    + (thrower.equals("RoomForecast") ? "" : " in " + thrower);
         }
     }
 

@@ -71,18 +71,21 @@ public final class RoomForecastTest {
         due(what, got ? 1 : 0, want ? 1 : 0);
     }
 
+    /** The class itself has to throw: an exception of the machine or of the library is a fault. */
     private static void dueThrow(String what, Class<?> want, Call call) {
         Class<?> got = null;
+        String thrower = "nobody";
         try {
             call.run();
         } catch (RuntimeException thrown) {
             got = thrown.getClass();
+            thrower = thrown.getStackTrace()[0].getClassName();
         }
-        if (got == want) {
+        if (got == want && thrower.equals("RoomForecast")) {
             passed++;
         } else {
             failed++;
-            System.out.println(what + ": threw " + got + ", due is " + want);
+            System.out.println(what + ": threw " + got + " in " + thrower + ", due is " + want);
         }
     }
 
@@ -391,7 +394,13 @@ public final class RoomForecastTest {
         x.pass(1);
         x.sample(0, 1144);
         // Of the 66 slopes a + b with 1 <= a < b <= 12, 30 are below 13 and 6 are 13.
-        dueSlope("the first sample counts no more", x, 13, 1);
+        dueSlope("a least first sample counts no more", x, 13, 1);
+        RoomForecast y = withSamples(100000, on(0, 0));
+        for (int day = 1; day <= 12; day++) {
+            y.pass(1);
+            y.sample(0, 1000 + day * day);
+        }
+        dueSlope("slopes of a first sample that were the greatest", y, 13, 1);
     }
 
     private static void usual() {
@@ -499,6 +508,7 @@ public final class RoomForecastTest {
         due("full already", y.full(0), 2);
         y.pass(100);
         due("full does not look at today", y.full(0), 2);
+        due("full on the second day", withSamples(100, on(0, 75), on(1, 85)).full(0), 3);
         RoomForecast z = withSamples(50, on(0, 70), on(1, 60));
         due("falling, but full on the first day", z.full(0), 2);
         z.setSize(0, 51);
@@ -542,6 +552,8 @@ public final class RoomForecastTest {
         dueDays("3 samples", x, 7, 6, 10);
         x.sample(0, 20);
         dueDays("3 samples in line", x, 10, 10, 10);
+        // all: 15 a day from 30; without the first: 10; the second: 15; the last: 20 a day from 20
+        dueDays("late without the first", withSamples(100, on(0, 0), on(1, 20), on(2, 30)), 7, 5, 9);
     }
 
     private static void boundsWithoutLastSample() {
