@@ -9,6 +9,9 @@ import java.util.Random;
 public final class RoomForecastModelTest {
     private static final int RUNS = 600;
     private static final int CALLS = 200;
+    /** So many calls an object is used for; one run in LONG_RUNS makes them all. */
+    private static final int MOST_CALLS = 512;
+    private static final int LONG_RUNS = 10;
     private static final String NO_STORE = "IndexOutOfBoundsException";
     private static final String WRONG = "IllegalArgumentException";
     private static final String STATE = "IllegalStateException";
@@ -424,7 +427,8 @@ public final class RoomForecastModelTest {
             Model model = new Model();
             Caller caller = new Caller(run);
             StringBuilder told = new StringBuilder();
-            for (int number = 0; number < CALLS; number++) {
+            int calls = run % LONG_RUNS == 0 ? MOST_CALLS : CALLS;
+            for (int number = 0; number < calls; number++) {
                 String call = caller.call(number);
                 int[] arguments = caller.arguments(call, model.today);
                 String want = model.answer(call, arguments);

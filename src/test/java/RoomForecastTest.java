@@ -8,14 +8,8 @@ import java.util.Collections;
 import java.util.List;
 
 /** Tests of each promise of ../shared/DOC.md, with answers worked out by hand. */
-public final class RoomForecastTest {
-    private static final Class<?> NO_STORE = IndexOutOfBoundsException.class;
-    private static final Class<?> WRONG = IllegalArgumentException.class;
-    private static final Class<?> STATE = IllegalStateException.class;
+public final class RoomForecastTest extends Checks {
     private static final int[] NO_STORES_OF_ONE = {-1, 1, 8, Integer.MIN_VALUE, Integer.MAX_VALUE};
-
-    private static int passed = 0;
-    private static int failed = 0;
 
     public static void main(String[] args) {
         face();
@@ -45,82 +39,7 @@ public final class RoomForecastTest {
         pool();
         poolDays();
         poolSums();
-        callsThatThrowChangeNothing();
-        System.out.println(passed + " checks hold, " + failed + " do not");
-        if (failed > 0) {
-            System.exit(1);
-        }
-    }
-
-    // ---- helpers
-
-    private interface Call {
-        void run();
-    }
-
-    private static void due(String what, long got, long want) {
-        if (got == want) {
-            passed++;
-        } else {
-            failed++;
-            System.out.println(what + ": answered " + got + ", due is " + want);
-        }
-    }
-
-    private static void due(String what, boolean got, boolean want) {
-        due(what, got ? 1 : 0, want ? 1 : 0);
-    }
-
-    /** The class itself has to throw: an exception of the machine or of the library is a fault. */
-    private static void dueThrow(String what, Class<?> want, Call call) {
-        Class<?> got = null;
-        String thrower = "nobody";
-        try {
-            call.run();
-        } catch (RuntimeException thrown) {
-            got = thrown.getClass();
-            thrower = thrown.getStackTrace()[0].getClassName();
-        }
-        if (got == want && thrower.equals("RoomForecast")) {
-            passed++;
-        } else {
-            failed++;
-            System.out.println(what + ": threw " + got + " in " + thrower + ", due is " + want);
-        }
-    }
-
-    /** An object with one store, and a sample for each pair of day and used room. */
-    private static RoomForecast withSamples(int size, int[]... daysAndUsed) {
-        RoomForecast x = new RoomForecast();
-        x.addStore(size);
-        for (int[] told : daysAndUsed) {
-            passTo(x, told[0]);
-            x.sample(0, told[1]);
-        }
-        return x;
-    }
-
-    private static int[] on(int day, int used) {
-        return new int[] {day, used};
-    }
-
-    private static int passTo(RoomForecast x, int day) {
-        int changes = 0;
-        while (x.today() < day) {
-            changes += x.pass(Math.min(100, day - x.today()));
-        }
-        return changes;
-    }
-
-    private static void dueSlope(String what, RoomForecast x, int numerator, int denominator) {
-        due(what + ", numerator", x.slopeNumerator(0), numerator);
-        due(what + ", denominator", x.slopeDenominator(0), denominator);
-    }
-
-    private static void dueDays(String what, RoomForecast x, int full, int early, int late) {
-        due(what + ", full", x.full(0), full);
-        due(what + ", early", x.early(0), early);
-        due(what + ", late", x.late(0), late);
+        finish();
     }
 
     // ---- the face
@@ -746,29 +665,5 @@ public final class RoomForecastTest {
         passTo(y, 1900);
         due("two stores at the limit", y.poolFull(3), 1901);
         due("all stores", y.poolFull(255), 1901);
-    }
-
-    // ---- all promises
-
-    private static void callsThatThrowChangeNothing() {
-        RoomForecast x = withSamples(100, on(0, 0), on(1, 10), on(2, 30));
-        x.setRule(0, 50, 7);
-        x.clean(0, 5);
-        int[] before = answers(x);
-        dueThrow("setSize", WRONG, () -> x.setSize(0, 0));
-        dueThrow("sample", WRONG, () -> x.sample(0, 1000001));
-        dueThrow("clean", WRONG, () -> x.clean(0, 100001));
-        dueThrow("setRule from", WRONG, () -> x.setRule(0, 3001, 1));
-        dueThrow("setRule every", WRONG, () -> x.setRule(0, 3, 101));
-        dueThrow("pass", WRONG, () -> x.pass(101));
-        dueThrow("addStore", WRONG, () -> x.addStore(0));
-        dueThrow("forecast", WRONG, () -> x.forecast(0, 2));
-        dueThrow("poolFull", WRONG, () -> x.poolFull(2));
-        due("all answers are as before", Arrays.equals(before, answers(x)), true);
-    }
-
-    private static int[] answers(RoomForecast x) {
-        return new int[] {x.today(), x.samples(0), x.slopeNumerator(0), x.slopeDenominator(0), x.usual(0),
-            x.forecast(0, 60), x.full(0), x.early(0), x.late(0), x.poolFull(1)};
     }
 }
