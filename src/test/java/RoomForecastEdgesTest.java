@@ -533,6 +533,22 @@ public final class RoomForecastEdgesTest extends Checks {
         }
         x.sample(0, 1000000);
         dueSlope("fractions with great parts", x, 536871, 500);
+        // 1500000/1, 500000/2000 and -1000000/1999: the steep slope times 2000 days is more than an int holds.
+        RoomForecast y = withSamples(1000000, on(0, 0), on(1, 1000000));
+        cleanFiveTimes(y);
+        passTo(y, 2000);
+        y.sample(0, 0);
+        dueSlope("a steep slope ahead of long ones", y, 250, 1);
+        // -1000000/1999, 500000/2000 and 1500000/1
+        RoomForecast z = withSamples(1000000, on(0, 1000000), on(1999, 0), on(2000, 1000000));
+        cleanFiveTimes(z);
+        dueSlope("a steep slope behind long ones", z, 250, 1);
+    }
+
+    private static void cleanFiveTimes(RoomForecast x) {
+        for (int i = 0; i < 5; i++) {
+            x.clean(0, 100000);
+        }
     }
 
     // ---- usual sizes
